@@ -101,6 +101,7 @@ public final class ModelTests {
             else s.setLength(i);
         }
         if (s.length() > 80) s.setLength(80);
+        if (dice.nextInt(6) == 0) s.insert(0, " ".repeat(80 - s.length()));
         int t = dice.nextInt(4);
         x.text(t, s.length());
         m.text(t, s.length());
@@ -116,8 +117,8 @@ public final class ModelTests {
 
     /** A row of what a goose tells, or of what another one would, or of anything. */
     private void layPairs(int r) {
-        int pairs = dice.nextInt(4);
-        int size = 2 * pairs + (dice.nextInt(12) == 0 ? 1 : 0);
+        int pairs = dice.nextInt(20) == 0 ? 20 : dice.nextInt(4);
+        int size = Math.min(40, 2 * pairs + (dice.nextInt(12) == 0 ? 1 : 0));
         x.row(r, size);
         m.row(r, size);
         for (int k = 0; k + 1 < size; k += 2) {
@@ -138,7 +139,8 @@ public final class ModelTests {
     }
 
     private void stepOfRows(int which) {
-        int r = pick(6), i = pick(5), to = pick(6), j = pick(5), n = pick(7), v = dice.nextInt(5) == 0 ? dice.nextInt() : pick(9), t = pick(4);
+        int size = dice.nextInt(4) == 0 ? 40 : 6;
+        int r = pick(6), i = pick(size), to = pick(6), j = pick(size), n = pick(size + 1), v = dice.nextInt(5) == 0 ? dice.nextInt() : pick(9), t = pick(4);
         call = "call " + which + " (" + r + ", " + i + ", " + to + ", " + j + ", " + n + ", " + v + ", " + t + ")";
         switch (which) {
             case 0: same(x.row(r, n), m.row(r, n)); break;

@@ -181,6 +181,10 @@ public final class PromiseTests {
         asks("mean of great ones", x, x.mean(0), 1, HIGH);
         Check.fill(x, 0, LOW, LOW);
         asks("mean of low ones", x, x.mean(0), 1, LOW);
+        int[] forty = new int[40];
+        java.util.Arrays.fill(forty, -3);
+        Check.fill(x, 0, forty);
+        asks("mean of 40", x, x.mean(0), 1, -3);
         x.row(0, 0);
         finds("mean of none", x, NOUGHT, () -> x.mean(0));
         refuses("mean BAD", x, BAD, () -> x.mean(6));
@@ -228,6 +232,13 @@ public final class PromiseTests {
         for (String text : good) fault(text, NONE);
         for (String end : new String[] {"", "   ", "v", "v0", "v0  ", " v012345", "v0g", "v0g1", "v0g10a", "v0 g10 t8"}) {
             fault(end, end.length());
+        }
+        for (String end : new String[] {"", "v", "v0", "v01234501", "v0g", "v0g1", "v0g10g10g10g10g10g10g"}) {
+            String whole = " ".repeat(80 - end.length()) + end;
+            fault(whole, end.length() < 20 ? 80 : 79);
+        }
+        for (String end : new String[] {"v0g10", "v0g100", "v0g10g10g10g10g10g10", "v0g10 "}) {
+            fault(" ".repeat(80 - end.length()) + end, NONE);
         }
         fault("w0g10", 0);
         fault("  g10", 2);
@@ -640,6 +651,9 @@ public final class PromiseTests {
         refuses("crew BAD", x, BAD, () -> x.crew(-1));
         refuses("least BAD", x, BAD, () -> x.least(64));
         refuses("least BAD", x, BAD, () -> x.least(-1));
+        MemoryGeese all = Check.flockOf("v0123455" + "g80012345".repeat(5) + "g800123456");
+        due("least, all geese tell everywhere", all.least(64), 1);
+        due("least, all geese tell everywhere", all.least(127), 6);
         MemoryGeese y = Check.flockOf("v00112233 t8001234567 a8021 g80");
         due("least by a twin", y.least(255), 2);
         due("least by a twin", y.least(4 | 8 | 16), 1);
@@ -747,6 +761,14 @@ public final class PromiseTests {
         ratio("gander: the newest", y, y.held(2, 0), 1 + 7 + 42 + 210, 1);
         y.eat(2, NONE);
         ratio("gone or not", y, y.held(2, 0), 260, 1);
+        int[] forty = new int[40];
+        for (int k = 0; k < 40; k += 2) forty[k] = 1 + k % 5;
+        Check.fill(y, 0, forty);
+        ratio("20 pairs", y, y.held(1, 0), 2081, 1);
+        due("20 pairs", y.kinds(1, 0), 63);
+        y.lay(0, 39, 1);
+        ratio("the last pair", y, y.held(1, 0), 0, 1);
+        due("the last pair", y.kinds(1, 0), 0);
     }
 
     // 34
