@@ -315,6 +315,9 @@ public final class QuestionEdgeTests {
         E.due("a twin", z.least(63), 3);
         E.due("around the end", z.least(33), 1);
         E.due("two of a goose or a twin", z.least(5), 2);
+        MemoryGeese v = E.flock("v0123455" + "g80012345".repeat(5) + "g800123456");
+        E.due("all geese tell at all places", v.least(127), 6);
+        E.due("the last goose at the last place", v.least(64), 1);
         MemoryGeese w = E.flock("v00 a8001 h2001 s8001");
         E.none("held, but not told", w, () -> w.least(1));
         E.none("one told, one not", w, () -> w.least(3));
@@ -338,6 +341,10 @@ public final class QuestionEdgeTests {
         E.asks("most", y, y.risk(), 2 | 4 | 8 | 64 | 128, 2);
         MemoryGeese z = E.flock("v0 s100");
         E.asks("held is enough, though untold", z, z.risk(), 1, 0);
+        MemoryGeese w = E.flock("v012345 g100 g101 g102 g103 g104 g105");
+        E.asks("six geese, the first", w, w.risk(), 63, 0);
+        for (int i = 0; i < 5; i++) w.eat(i, NONE);
+        E.asks("the last goose", w, w.risk(), 32, 5);
     }
 
     private static void safeBy(String text, int want) {

@@ -21,6 +21,7 @@ public final class RowEdgeTests {
         faults();
         flocks();
         flocksAnew();
+        readingLeavesTheFlock();
         geese();
         kindsOfMarks();
         marks();
@@ -391,6 +392,30 @@ public final class RowEdgeTests {
         E.bad("no goose of the earlier one", x, () -> x.goose(1, 0));
         E.bad("no fact of the earlier one", x, () -> x.place(1));
         E.holds("nothing of the earlier one", x, 0);
+    }
+
+    /** Neither asking for a fault nor a refused flock changes what deeds are undone to, what kept ones go on from. */
+    private static void readingLeavesTheFlock() {
+        for (String other : new String[] {"v54321 t8901 l30 g10 g10", "v543 g2010 x", "", "v012345 g8001234567"}) {
+            MemoryGeese x = E.flock("v0123 g4501 s332 h2112");
+            x.give(0, 3);
+            x.keep(0);
+            x.eat(1, NONE);
+            Check.write(x, 1, other);
+            E.by(10);
+            E.due("fault of '" + other + "'", x.fault(1) == NONE ? 1 : 0, other.startsWith("v54321") ? 1 : 0);
+            E.by(11);
+            if (x.fault(1) != NONE) E.state("flock of '" + other + "'", x, () -> x.flock(1));
+            E.due("going on", x.on(0), 1);
+            E.holds("as it was kept", x, 0, 0, 1, 3);
+            E.holds("as it was kept", x, 1, 2);
+            E.due("undone", x.undo(0), 1);
+            E.holds("as at first", x, 0, 0, 1);
+            E.holds("as at first", x, 1, 2);
+            E.holds("as at first", x, 2, 1, 2);
+            E.due("the facts of the flock", x.count(1), 4);
+            E.due("the geese of the flock", x.count(0), 3);
+        }
     }
 
     private static void gooseIs(String what, MemoryGeese x, int i, int... want) {
