@@ -184,7 +184,7 @@ public final class DeedEdgeTests {
             E.by(n);
             MemoryGeese x = E.flock("v01 g201 g201 h20 a100 g10");
             x.eat(4, NONE);
-            while (x.count(3) < 39) x.fright(2);
+            E.frightUpTo(x, 39, 2);
             done(x, n, 3, 0);
             E.due("the 40th is done", x.count(3), 40);
             E.full("the 41st", x, () -> done(x, n, 0, 1));

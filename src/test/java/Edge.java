@@ -109,6 +109,12 @@ final class Edge {
         x.undo(deeds);
     }
 
+    /** Frightens one until so many deeds are done; no more than 40 times, so that a broken class fails and doesn't hang. */
+    void frightUpTo(MemoryGeese x, int deeds, int i) {
+        for (int k = 0; k < 40 && x.count(3) < deeds; k++) x.fright(i);
+        due("deeds", x.count(3), deeds);
+    }
+
     /** Argument k of such a call in a village may be least to most, and is BAD outside. */
     void range(int number, Call call, int k, int least, int most, int... args) {
         by(number);

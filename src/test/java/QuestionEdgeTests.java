@@ -318,6 +318,15 @@ public final class QuestionEdgeTests {
         MemoryGeese v = E.flock("v0123455" + "g80012345".repeat(5) + "g800123456");
         E.due("all geese tell at all places", v.least(127), 6);
         E.due("the last goose at the last place", v.least(64), 1);
+        for (int i = 5; i >= 0; i--) {
+            v.eat(i, NONE);
+            if (i == 5) E.none("one gone is heard no more", v, () -> v.least(64));
+            else if (i > 0) E.due("as long as one is left", v.least(63), 6);
+            else for (int f = 0; f < 7; f++) {
+                int set = 1 << f;
+                E.none("none is left", v, () -> v.least(set));
+            }
+        }
         MemoryGeese w = E.flock("v00 a8001 h2001 s8001");
         E.none("held, but not told", w, () -> w.least(1));
         E.none("one told, one not", w, () -> w.least(3));
@@ -360,6 +369,8 @@ public final class QuestionEdgeTests {
         safeBy("v01234501 g80 g70", NONE);
         safeBy("v0 g10", NONE);
         safeBy("v0 g100", NONE);
+        safeBy("v0 g80", NONE);
+        safeBy("v0 g800", NONE);
         safeBy("v0 g10 g10", 2);
         safeBy("v0 g100 g10", 1);
         safeBy("v01 g100 g101", NONE);

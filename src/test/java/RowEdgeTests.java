@@ -19,6 +19,7 @@ public final class RowEdgeTests {
         texts();
         bytes();
         faults();
+        faultsAtTheLastByte();
         flocks();
         flocksAnew();
         readingLeavesTheFlock();
@@ -343,6 +344,22 @@ public final class RowEdgeTests {
         MemoryGeese y = new MemoryGeese();
         E.finds("no text", y, NOTHING, () -> y.fault(3));
         E.bad("BAD ahead of NOTHING", y, () -> y.fault(4));
+    }
+
+    /** A text of 80 bytes whose end comes too early, or just so, behind each of its items. */
+    private static void faultsAtTheLastByte() {
+        E.by(10);
+        String[] early = {"", "v", "v0", "v01234501", "v0 g", "v0 g1", "v0 g10 a", "v0 g10 a8", "v0 g100 s1", "v0 " + "g10".repeat(5) + "g1"};
+        String[] whole = {"v0 g10", "v0 g100", "v0 g10 ", "v01234501 l8976543210", "v0 " + "g10".repeat(6), "v0 " + "g100".repeat(6)};
+        for (String end : early) faultOf(" ".repeat(80 - end.length()) + end, 80);
+        for (String end : whole) faultOf(" ".repeat(80 - end.length()) + end, NONE);
+        for (String end : whole) faultOf(" ".repeat(79 - end.length()) + end + "v", 79);
+    }
+
+    private static void faultOf(String text, int want) {
+        MemoryGeese x = new MemoryGeese();
+        Check.write(x, 3, text);
+        E.unchanged("fault of '" + text + "'", x, want, () -> x.fault(3));
     }
 
     private static void flocks() {

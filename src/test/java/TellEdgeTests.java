@@ -217,7 +217,7 @@ public final class TellEdgeTests {
         x.tear(5);
         x.text(1, 0);
         countsAre("rows torn", x, 3, 4, 3, 2, 1, 1, 4, 4, 3);
-        while (x.count(3) < 40) x.fright(0);
+        E.frightUpTo(x, 40, 0);
         countsAre("40 deeds", x, 3, 4, 3, 40, 1, 1, 4, 4, 3);
         x.undo(39);
         countsAre("39 deeds", x, 3, 4, 3, 39, 1, 1, 4, 4, 3);
@@ -329,7 +329,7 @@ public final class TellEdgeTests {
         MemoryGeese x = E.flock(text + " ".repeat(80 - text.length()));
         for (int k = 0; k < 6; k++) x.row(k, 40);
         for (int t = 1; t < 4; t++) x.text(t, 80);
-        while (x.count(3) < 40) x.give(5, 7);
+        for (int k = 0; k < 40; k++) x.give(5, 7);
         for (int k = 0; k < 3; k++) x.keep(k);
         long want = hash(17, 6, 8, 6, 40, 0, 0, 6, 4, 3, 0, 1, 2, 3, 4, 5, 0, 1);
         for (int i = 0; i < 6; i++) want = hash(want, 2, 8, 9, 255, 7, 0, 0, 0, 1, 2, 3, 4, 5, 6, 7);
