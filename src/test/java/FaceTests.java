@@ -26,11 +26,17 @@ public final class FaceTests {
         "throw", "throws", "try", "catch", "finally", "synchronized", "assert", "double", "float", "Random", "System.currentTimeMillis",
         "System.nanoTime", "Thread", "protected", "hashCode", "toString", "Object", "Exact", "->", "::", "volatile", "native"};
 
+    private static final List<String> LIBRARY = List.of(
+        "Math.max", "Math.min", "Integer.bitCount", "Integer.numberOfTrailingZeros", "Arrays.fill", "System.arraycopy");
+    private static final int LONGEST_METHOD = 60;
+
     public static void main(String[] args) throws Exception {
         face();
         constants();
         nested();
         source();
+        library();
+        methodsAndLoops();
         room();
         C.end();
     }
@@ -96,13 +102,51 @@ public final class FaceTests {
     private static void source() throws Exception {
         String text = Files.readString(Path.of("src/main/java/MemoryGeese.java"));
         for (int k = 0; k < text.length(); k++) C.holds("plain signs at " + k, text.charAt(k) < 128);
-        String code = text.replaceAll("(?s)/\\*.*?\\*/", "").replaceAll("//[^\n]*", "");
+        String code = code();
         for (String word : FORBIDDEN) {
             String pattern = Character.isLetter(word.charAt(0)) ? "\\b" + Pattern.quote(word) + "\\b" : Pattern.quote(word);
             C.holds("no " + word, !Pattern.compile(pattern).matcher(code).find());
         }
         Matcher imports = Pattern.compile("import [^;]*").matcher(code);
         while (imports.find()) C.holds(imports.group(), imports.group().equals("import java.util.Arrays"));
+    }
+
+    /** The source without its comments. */
+    private static String code() throws Exception {
+        String text = Files.readString(Path.of("src/main/java/MemoryGeese.java"));
+        return text.replaceAll("(?s)/\\*.*?\\*/", "").replaceAll("//[^\n]*", "");
+    }
+
+    /** Rule 4: of the library only what is listed, and of that only what the class needs. */
+    private static void library() throws Exception {
+        Matcher used = Pattern.compile("\\b(Math|Integer|Long|Arrays|System|String|StringBuilder|List|ArrayList)\\b(\\.\\w+)?").matcher(code());
+        int seen = 0;
+        while (used.find()) {
+            seen++;
+            boolean isImport = used.group().equals("Arrays");
+            C.holds("of the library: " + used.group(), isImport || LIBRARY.contains(used.group()));
+        }
+        C.holds("the library's names are found", seen > LIBRARY.size());
+    }
+
+    /** Rules 9 and 11: no loop without a bound in its own lines, no method of more than some sixty lines. */
+    private static void methodsAndLoops() throws Exception {
+        String[] lines = code().split("\n");
+        int from = -1;
+        int methods = 0;
+        String end = "";
+        for (int k = 0; k < lines.length; k++) {
+            C.holds("a loop with a bound: " + lines[k], !lines[k].matches(".*(while \\(true\\)|for \\([^;]*; *;).*"));
+            if (from < 0 && lines[k].matches(" {4,8}\\w[^=;]*\\) \\{")) {
+                from = k;
+                methods++;
+                end = lines[k].replaceAll("\\w.*", "}");
+            } else if (from >= 0 && lines[k].equals(end)) {
+                C.holds("short enough: " + lines[from], k - from < LONGEST_METHOD);
+                from = -1;
+            }
+        }
+        C.holds("all methods are found: " + methods, methods > METHODS.length);
     }
 
     /** All calls of a run live in one room: only the constructor may take some of it. */
